@@ -1608,6 +1608,10 @@ public final class LongTrain {
         int bestCount;
         private int best;
         private int most;
+        /** The HEAD at which the latest row of places parted: the next one is likely to part there too. */
+        private int deadlyHead;
+        /** Of each number of UNITS from 0 on: their GRADES together. */
+        private final int[] gradeSums = new int[MOST_UNITS + 1];
         /** For BETS: the least STRENGTH with which each COUPLING holds. */
         private final int[] leasts = new int[MOST_WAGONS];
         private int seed;
@@ -1656,8 +1660,12 @@ public final class LongTrain {
                     most++;
                 }
             }
+            for (int unit = 0; unit < line.units; unit++) {
+                gradeSums[unit + 1] = gradeSums[unit] + line.gradeOf(unit);
+            }
             best = NONE;
             bestCount = 0;
+            deadlyHead = NONE;
             rows[0].begin(line);
             search(line, 0, 0);
             return best;
@@ -1666,7 +1674,14 @@ public final class LongTrain {
         private void search(Line line, int level, int haltsAhead) {
             Row row = rows[level];
             int halts = haltsAhead;
-            for (int head = row.head + 1; head < line.units && holdsAt(head, row, line); head++) {
+            if (halts <= best && !mayComeFarther(row, line)) {
+                return;
+            }
+            for (int head = row.head + 1; head < line.units; head++) {
+                if (!holdsAt(head, row, line)) {
+                    deadlyHead = head;
+                    break;
+                }
                 int kind = row.arrive(line);
                 if (kind != NONE) {
                     halts++;
@@ -1682,6 +1697,50 @@ public final class LongTrain {
                 bestCount = level;
                 System.arraycopy(places, 0, bestPlaces, 0, level);
             }
+        }
+
+        /** False only if it is sure, without all MOVES, that it does not come to the next HALT that adds. */
+        private boolean mayComeFarther(Row row, Line line) {
+            int next = row.nextHalt;
+            while (next < line.haltCount && line.haltAdds(next) == NONE) {
+                next++;
+            }
+            if (next >= line.haltCount) {
+                return false;
+            }
+            int goal = line.haltAt(next);
+            return !isOverborneAt(deadlyHead, goal, row, line) && !isWornAhead(goal, row, line);
+        }
+
+        private static boolean isOverborneAt(int head, int goal, Row row, Line line) {
+            int now = row.head;
+            if (head <= now || head > goal) {
+                return false;
+            }
+            row.head = head;
+            row.measure(line);
+            row.head = now;
+            return row.isOverborne();
+        }
+
+        /** Whether what is borne ahead of a HEAD, taken together, is more WEAR than a COUPLING holds. */
+        private boolean isWornAhead(int head, Row row, Line line) {
+            int moves = head - 1 - row.head;
+            int unit = row.head - 1 - row.total;
+            int sum = 0;
+            for (int i = row.size - 1; i >= 0; i--) {
+                unit += row.longs[i];
+                int grades = gradesTo(unit + moves, line) - gradesTo(unit, line);
+                sum += row.weights[i] * (grades + moves * line.rub);
+                if (row.wears[i] + sum > line.wear * row.strengths[i]) {
+                    return true;
+                }
+            }
+            return false;
+        }
+
+        private int gradesTo(int unit, Line line) {
+            return unit < 0 ? 0 : gradeSums[Math.min(unit + 1, line.units)];
         }
 
         private void branch(Line line, int level, int halts, int kind) {
