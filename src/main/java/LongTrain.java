@@ -1608,6 +1608,9 @@ public final class LongTrain {
         int bestCount;
         private int best;
         private int most;
+        /** A row as it will be farther on, and the HEAD from which on each of its WAGONS is there. */
+        private final Row ahead = new Row();
+        private final int[] since = new int[MOST_WAGONS];
         /** The HEAD at which the latest row of places parted: the next one is likely to part there too. */
         private int deadlyHead;
         /** Of each number of UNITS from 0 on: their GRADES together. */
@@ -1674,7 +1677,7 @@ public final class LongTrain {
         private void search(Line line, int level, int haltsAhead) {
             Row row = rows[level];
             int halts = haltsAhead;
-            if (halts <= best && !mayComeFarther(row, line)) {
+            if (halts <= best && !mayBeBetter(row, line, level, halts)) {
                 return;
             }
             for (int head = row.head + 1; head < line.units; head++) {
@@ -1699,44 +1702,56 @@ public final class LongTrain {
             }
         }
 
-        /** False only if it is sure, without all MOVES, that it does not come to the next HALT that adds. */
-        private boolean mayComeFarther(Row row, Line line) {
-            int next = row.nextHalt;
-            while (next < line.haltCount && line.haltAdds(next) == NONE) {
-                next++;
+        /** False only if it is sure, without all its MOVES, that it comes to no more HALTS than the best. */
+        private boolean mayBeBetter(Row row, Line line, int level, int halts) {
+            ahead.copyFrom(row);
+            for (int i = 0; i < row.size; i++) {
+                since[i] = row.head;
             }
-            if (next >= line.haltCount) {
-                return false;
+            int missing = best + 1 - halts;
+            for (int h = row.nextHalt; h < line.haltCount; h++) {
+                int kind = line.haltAdds(h);
+                if (kind == NONE) {
+                    continue;
+                }
+                missing--;
+                if (missing <= 0 || level < PLACES || ahead.size >= MOST_WAGONS) {
+                    return !isWornBy(line.haltAt(h), line) && !isOverborneBy(line.haltAt(h), line);
+                }
+                since[ahead.size] = line.haltAt(h);
+                ahead.insert(ahead.size, kind, line);
             }
-            int goal = line.haltAt(next);
-            return !isOverborneAt(deadlyHead, goal, row, line) && !isWornAhead(goal, row, line);
+            return false;
         }
 
-        private static boolean isOverborneAt(int head, int goal, Row row, Line line) {
-            int now = row.head;
-            if (head <= now || head > goal) {
-                return false;
-            }
-            row.head = head;
-            row.measure(line);
-            row.head = now;
-            return row.isOverborne();
-        }
-
-        /** Whether what is borne ahead of a HEAD, taken together, is more WEAR than a COUPLING holds. */
-        private boolean isWornAhead(int head, Row row, Line line) {
-            int moves = head - 1 - row.head;
-            int unit = row.head - 1 - row.total;
+        /** Whether all that a COUPLING bears ahead of a HEAD, taken together, is more WEAR than it holds. */
+        private boolean isWornBy(int head, Line line) {
+            int behind = ahead.total;
             int sum = 0;
-            for (int i = row.size - 1; i >= 0; i--) {
-                unit += row.longs[i];
-                int grades = gradesTo(unit + moves, line) - gradesTo(unit, line);
-                sum += row.weights[i] * (grades + moves * line.rub);
-                if (row.wears[i] + sum > line.wear * row.strengths[i]) {
+            for (int i = ahead.size - 1; i >= 0; i--) {
+                behind -= ahead.longs[i];
+                int grades = gradesTo(head - 2 - behind, line) - gradesTo(since[i] - 1 - behind, line);
+                sum += ahead.weights[i] * (grades + (head - 1 - since[i]) * line.rub);
+                if (ahead.wears[i] + sum > line.wear * ahead.strengths[i]) {
                     return true;
                 }
             }
             return false;
+        }
+
+        /** Whether a COUPLING bears too much at the deadly HEAD, if that is no farther than a HEAD. */
+        private boolean isOverborneBy(int head, Line line) {
+            if (deadlyHead <= ahead.head || deadlyHead > head) {
+                return false;
+            }
+            int there = ahead.size;
+            while (there > 0 && since[there - 1] >= deadlyHead) {
+                there--;
+            }
+            ahead.dropFrom(there);
+            ahead.head = deadlyHead;
+            ahead.measure(line);
+            return ahead.isOverborne();
         }
 
         private int gradesTo(int unit, Line line) {
