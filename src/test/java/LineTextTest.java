@@ -165,6 +165,18 @@ public final class LineTextTest {
         bad(blanksTo("rub", 899) + "1;", 900, 1);
     }
 
+    /** On a LINE without UNITS the engine is on no grade, whatever was told before. */
+    private static void emptyAgain() {
+        LongTrain x = C.on("slope 7 5;");
+        Checks.line(x, "slope 8 5;");
+        for (int i = 0; i < 3; i++) {
+            C.due("line ''", Checks.line(x, ""), 0);
+            C.due("LOAD on an empty LINE", x.train(5), 10);
+            C.due("go(1, 0)", x.go(1, 0), 0);
+            C.throwsNoSuch("grade(0)", () -> x.grade(0));
+        }
+    }
+
     private static void newLine() {
         LongTrain x = C.on("slope 0 20;wagon a 1 10 5;train a a;");
         Checks.plan(x, "go 1;");
@@ -195,6 +207,7 @@ public final class LineTextTest {
         tooMany();
         longTexts();
         newLine();
+        emptyAgain();
         C.close("LineTextTest");
     }
 }
