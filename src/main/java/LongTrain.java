@@ -21,8 +21,8 @@ public final class LongTrain {
     private final int[] tape = new int[MOST_TAPE];
     private int tapeSize;
     private int faultKind;
-    private final Reader reader = new Reader();
-    private final LineReader lineReader = new LineReader(reader);
+    private final LineReader lineReader = new LineReader();
+    private final Reader planReader = new Reader();
     private final State now = new State();
     private final State[] images = new State[IMAGES];
     /** Filled by readers, so that a FAULT leaves what stands untouched. */
@@ -35,7 +35,6 @@ public final class LongTrain {
     private final Train trialTrain = new Train();
 
     public LongTrain() {
-        now.train.begin(now.line);
     }
 
     public int feed(int a, int b, int c, int d, int e) {
@@ -67,7 +66,7 @@ public final class LongTrain {
 
     public int line() {
         int rows = lineReader.read(tape, takeTape(), spareLine);
-        faultKind = reader.fault;
+        faultKind = lineReader.reader.fault;
         if (rows >= 0) {
             Line old = now.line;
             now.line = spareLine;
@@ -328,8 +327,8 @@ public final class LongTrain {
     }
 
     public int plan() {
-        int rows = sparePlan.read(reader, tape, takeTape());
-        faultKind = reader.fault;
+        int rows = sparePlan.read(planReader, tape, takeTape());
+        faultKind = planReader.fault;
         if (rows >= 0) {
             Plan old = now.plan;
             now.plan = sparePlan;
@@ -1078,17 +1077,14 @@ public final class LongTrain {
         private static final int MOST_BYTES = 900;
         private static final int MOST_SLOPES = 20;
 
-        private final Reader reader;
+        final Reader reader = new Reader();
         private final long[] haltNames = new long[MOST_HALTS];
         private final long[] kindNames = new long[MOST_KINDS];
+        /** The LINE that is being read. */
         private Line line;
         private int slopes;
         /** A bit for each WORD that is told once and was. */
         private int told;
-
-        LineReader(Reader reader) {
-            this.reader = reader;
-        }
 
         /** How many ROWS; -1 less the place of a FAULT. */
         int read(int[] tape, int size, Line into) {
