@@ -1336,9 +1336,9 @@ public final class LongTrain {
         int foundHead;
         int foundCoupling;
         int foundHeads;
-        /** Where the COOK is: a WAGON, and UNITS behind the foremost of it. */
+        /** Where the COOK is: a WAGON, and UNITS of it that he still has to go on it. */
         private int cookWagon;
-        private int cookUnit;
+        private int cookWay;
         /** Of each load: how many WAGONS are at its PLATFORM (always the foremost ones). */
         private final int[] reached = new int[MOST_LOADS];
         /** Of each load: its WAGON. */
@@ -1492,7 +1492,7 @@ public final class LongTrain {
         int minutes(Line line, int from, int to, int a) {
             start(line, a);
             cookWagon = from;
-            cookUnit = 0;
+            cookWay = from < to ? row.longs[from] : 0;
             for (int head = a; head < line.units; head++) {
                 row.head = head;
                 row.takeOn(line);
@@ -1504,42 +1504,42 @@ public final class LongTrain {
             return NONE;
         }
 
+        /** One minute of the COOK: going along takes his UNITS, going past a COUPLING takes none. */
         private boolean cookComes(int walk, int to) {
-            for (int i = 0; i < walk; i++) {
-                boolean goes = cookWagon < to ? cookGoesBehind() : cookGoesAhead();
-                if (!goes) {
+            int left = walk;
+            for (int i = 0; i <= MOST_WAGONS; i++) {
+                int goes = Math.min(left, cookWay);
+                left -= goes;
+                cookWay -= goes;
+                if (cookWay > 0) {
                     return false;
                 }
-                if (cookWagon == to && cookUnit == 0) {
+                if (cookWagon == to) {
                     return true;
+                }
+                if (!(cookWagon < to ? cookPassesBehind(to) : cookPassesAhead())) {
+                    return false;
                 }
             }
             return false;
         }
 
-        private boolean cookGoesBehind() {
-            if (cookUnit + 1 < row.longs[cookWagon]) {
-                cookUnit++;
-                return true;
-            }
+        /** At the foremost UNIT of the last WAGON his way has its end. */
+        private boolean cookPassesBehind(int to) {
             if (!canPass(cookWagon + 1)) {
                 return false;
             }
             cookWagon++;
-            cookUnit = 0;
+            cookWay = cookWagon == to ? 0 : row.longs[cookWagon];
             return true;
         }
 
-        private boolean cookGoesAhead() {
-            if (cookUnit > 0) {
-                cookUnit--;
-                return true;
-            }
+        private boolean cookPassesAhead() {
             if (!canPass(cookWagon)) {
                 return false;
             }
             cookWagon--;
-            cookUnit = row.longs[cookWagon] - 1;
+            cookWay = row.longs[cookWagon];
             return true;
         }
 

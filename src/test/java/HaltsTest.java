@@ -63,6 +63,33 @@ public final class HaltsTest {
         }
     }
 
+    /** Going past a COUPLING takes none of his UNITS, and he stays at it, not on the UNIT on his side. */
+    private static void cooksAtCouplings() {
+        // COUPLING 1 is closed at HEADS 6 to 9, COUPLING 2 at 8 and 9
+        String row = "slope 0 3;slope 9 2;slope 0 10;wagon a 2 10 60;train a a a;";
+        LongTrain x = C.on(row + "walk 2;");
+        C.due("2 UNITS to a closed one, 2 to the next", x.cook(0, 2, 9), 2);
+        C.due("both at once, none left", x.cook(0, 2, 10), 2);
+        C.due("past the first one at the last moment", x.cook(0, 2, 5), 2);
+        C.due("a moment too late", x.cook(0, 2, 6), 5);
+        C.due("he comes to 2 at 7, its last moment", x.cook(1, 2, 7), 1);
+        C.due("he comes to 2 at 8", x.cook(1, 2, 8), 3);
+        C.due("past both back in the minute ahead of the closing", x.back(0, 2, 5), 2);
+        C.due("past 2 at once, then at 1", x.back(0, 2, 6), 5);
+        C.due("to the foremost UNIT of 1", x.back(1, 2, 7), 1);
+        C.due("2 is closed back", x.back(1, 2, 8), 3);
+        LongTrain y = C.on(row + "walk 1;");
+        C.due("4 UNITS", y.cook(0, 2, 10), 4);
+        C.due("4 UNITS back", y.back(0, 2, 10), 4);
+        C.due("UNITS left are lost at a closed one", C.on(row + "walk 9;").cook(0, 2, 9), 2);
+        C.due("all in one minute", C.on(row + "walk 4;").cook(0, 2, 10), 1);
+        C.due("all back in one minute", C.on(row + "walk 4;").back(0, 2, 10), 1);
+        C.due("one UNIT too many", C.on(row + "walk 3;").back(0, 2, 10), 2);
+        LongTrain z = C.on("slope 0 10;slope 5 5;slope - 3 5;slope 0 10;halt h 8 4;halt k 22 20;loop 5 3;"
+            + "loop 20 9;wagon a 2 10 100;wagon b 1 20 300;adds h b;engine 100 10;rub 1;sand 50;walk 2;train a a;");
+        C.due("five minutes at COUPLING 1", z.cook(0, 2, 15), 6);
+    }
+
     private static void loaded(LongTrain x, int[] halts, int... due) {
         int most = 0;
         for (int w : due) {
@@ -145,6 +172,7 @@ public final class HaltsTest {
     public static void main(String[] args) {
         platforms();
         cooks();
+        cooksAtCouplings();
         loads();
         crossings();
         rings();

@@ -816,34 +816,34 @@ final class Model {
         if (!unit(a) || i < 0 || i > j || j >= Rail.free(on, a, true).wagons.size()) {
             return -1;
         }
-        // UNITS from the foremost of i to that of j: the WAGON to which each belongs
-        List<Integer> way = new ArrayList<>();
-        for (int w = i; w < j; w++) {
-            for (int u = 0; u < on.kinds.get(Rail.free(on, a, true).wagons.get(w).kind).length; u++) {
-                way.add(w);
-            }
-        }
-        way.add(j);
-        int at = back ? way.size() - 1 : 0;
-        int goal = back ? 0 : way.size() - 1;
-        int minute = 0;
-        if (at == goal) {
+        if (i == j) {
             return 0;
         }
+        // Where COUPLINGS stand, in UNITS behind the foremost of i; he is at a place between them
+        int[] stands = new int[j + 1];
+        for (int w = i + 1; w <= j; w++) {
+            stands[w] = stands[w - 1] + on.kinds.get(Rail.free(on, a, true).wagons.get(w - 1).kind).length;
+        }
+        int at = back ? stands[j] : 0;
+        int coupling = back ? j : i + 1;
+        int minute = 0;
         for (int h = a; h < on.units(); h++) {
             minute++;
             Rail r = Rail.free(on, h, true);
-            for (int s = 0; s < on.walk; s++) {
-                int to = at + (back ? -1 : 1);
-                int coupling = Math.max(way.get(at), way.get(to));
-                boolean passes = !way.get(at).equals(way.get(to));
-                if (passes && r.bears(coupling) > r.wagons.get(coupling).strength / 2) {
-                    break;
+            for (int gone = 0;; gone++) {
+                if (coupling > i && coupling <= j && at == stands[coupling]) {
+                    if (r.bears(coupling) > r.wagons.get(coupling).strength / 2) {
+                        break;
+                    }
+                    coupling += back ? -1 : 1;
                 }
-                at = to;
-                if (at == goal) {
+                if (back ? at == 0 : coupling > j) {
                     return minute;
                 }
+                if (gone == on.walk) {
+                    break;
+                }
+                at += back ? -1 : 1;
             }
         }
         return -1;
