@@ -1491,6 +1491,9 @@ public final class LongTrain {
         /** Minutes of the COOK from one WAGON to another, either way; NONE: he does not come there. */
         int minutes(Line line, int from, int to, int a) {
             start(line, a);
+            if (from < 0 || from >= row.size) {
+                return NONE;
+            }
             cookWagon = from;
             cookWay = from < to ? row.longs[from] : 0;
             for (int head = a; head < line.units; head++) {
