@@ -59,6 +59,10 @@ public final class FreeTest {
         C.due("climb(0, 29, 0)", x.climb(0, 29, 0), 29);
         C.due("climb(8, 29, 0)", x.climb(8, 29, 0), 11);
         C.due("climb(8, 10, 0)", x.climb(8, 10, 0), 10);
+        C.due("it stalls at b", x.climb(8, 12, 0), 11);
+        C.due("what comes on at 8 is on the way, 379", x.climb(7, 29, 379), 16);
+        C.due("what comes on at 8 is on the way, 380", x.climb(7, 29, 380), 29);
+        C.due("needed(7, 29)", x.needed(7, 29), 380);
         C.due("climb(8, 29, 449)", x.climb(8, 29, 449), 16);
         C.due("climb(8, 29, 450)", x.climb(8, 29, 450), 29);
         C.due("climb(8, 29, 99999)", x.climb(8, 29, 99999), 29);
@@ -87,6 +91,10 @@ public final class FreeTest {
         C.due("sanded(8, 29, 450)", x.sanded(8, 29, 450), 0);
         C.due("sanded(8, 29, 449)", x.sanded(8, 29, 449), 1);
         C.due("sanded(29, 29, 0)", x.sanded(29, 29, 0), 0);
+        C.due("sanded(7, 29, 380)", x.sanded(7, 29, 380), 0);
+        C.due("sanded(7, 29, 379)", x.sanded(7, 29, 379), 1);
+        LongTrain w = C.on("slope 0 9;engine 8 1;rub 9;sand 1;");
+        C.due("sand of 1", w.sanded(0, 8, 3), 5);
         LongTrain y = C.on("slope 0 9;engine 4 1;rub 9;sand 5;");
         C.due("one for each MOVE", y.sanded(0, 8, 0), 8);
         C.due("one for each MOVE but one", y.sanded(0, 8, 5), 7);
@@ -99,6 +107,7 @@ public final class FreeTest {
         LongTrain x = C.on(LINE);
         C.due("helped(8, 29, 0, 100)", x.helped(8, 29, 0, 100), 0);
         C.due("helped(8, 29, 0, 200)", x.helped(8, 29, 0, 200), 6);
+        C.due("of those at 7", x.helped(7, 29, 0, 200), 2);
         C.due("helped(7, 7, 0, 1)", x.helped(7, 7, 0, 1), 3);
         C.due("helped(8, 8, 0, 1)", x.helped(8, 8, 0, 1), 7);
         C.due("helped(8, 8, 0, 999)", x.helped(8, 8, 0, 999), 7);

@@ -18,6 +18,8 @@ public final class HaltsTest {
         C.due("platform(-1)", x.platform(-1), -1);
         C.due("room(5)", x.room(5), -1);
         C.due("room(-1)", x.room(-1), -1);
+        C.due("room of a HALT far on, asked alone", x.room(4), 9);
+        C.due("and of one ahead of it", x.room(0), 6);
         LongTrain y = C.on("slope 0 9;halt h 5 9;wagon a 1 1 1;adds h a;");
         C.due("no WAGONS at it", y.platform(0), 0);
         C.due("no room needed", y.room(0), 0);
@@ -41,6 +43,13 @@ public final class HaltsTest {
         C.due("back at the last UNIT", x.back(0, 1, 14), -1);
         C.due("nowhere to go", x.cook(1, 1, 14), 0);
         C.due("nowhere to go back", x.back(1, 1, 14), 0);
+        C.due("nor from the first WAGON", x.cook(0, 0, 0), 0);
+        C.due("nor back to it", x.back(0, 0, 0), 0);
+        LongTrain v = C.on("slope 0 9;halt h 2 9;wagon a 2 10 30;adds h a;train a a;walk 1;");
+        C.due("past ahead of what comes on", v.cook(0, 1, 0), 2);
+        C.due("what comes on at 2 closes it", v.cook(0, 1, 1), -1);
+        C.due("past it back ahead of that", v.back(0, 1, 1), 2);
+        C.due("closed back", v.back(0, 1, 2), -1);
         // 9 UNITS a minute, three couplings of 1, 2 and 3 UNITS behind one another
         LongTrain y = C.on("slope 0 9;halt h 2 9;wagon a 1 10 20;wagon b 2 10 60;wagon c 3 10 41;train a b c;adds h a;walk 9;");
         C.due("c's coupling bears 20 of 20 from 2 on", y.cook(0, 2, 2), 1);
@@ -112,6 +121,9 @@ public final class HaltsTest {
         loaded(x, new int[] {1, 1, 2, 2, 2}, 0, -1, 1, -1, -1);
         loaded(x, new int[] {4, 0, 4, 4, 4, 4}, 0, -1, 1, 2, 3, -1);
         loaded(x, new int[] {4, 4, 4, 4, 4, 1, 2, 3}, 0, 1, 2, 3, -1, -1, -1, -1);
+        loaded(C.on("slope 0 30;halt a 20 99;wagon k 1 1 99;train k k k k k k k k;"), new int[8], 0, 1, 2, 3, 4, 5, 6, 7);
+        loaded(C.on("slope 0 30;halt a 20 8;halt b 25 9;wagon k 1 1 99;train k k k k k k k k;"),
+                new int[] {1, 0, 0, 0, 0, 0, 0, 0}, 7, 0, 1, 2, 3, 4, 5, 6);
         loaded(x, new int[] {3, 2, 2, 4}, 2, 0, 1, 3);
         C.due("the tape is empty then", x.count(10), 0);
         C.due("no bytes", Checks.loads(x), -1);
@@ -131,6 +143,8 @@ public final class HaltsTest {
         C.due("the shorter needs 50 and 5", x.cross(5, 9, 0, 98, 1), 55);
         C.due("the other one is shorter", x.cross(9, 5, 0, 98, 1), 53);
         C.due("like ones: the first goes in", x.cross(8, 8, 0, 98, 1), 58);
+        C.due("and the other one waits for nothing", x.cross(8, 8, 40, 90, 1), 40);
+        C.due("the longer one needs its way alone", x.cross(9, 5, 30, 60, 1), 20);
         C.due("too long for all but one", x.cross(11, 12, 0, 98, 0), 4);
         C.due("minutes", x.cross(11, 12, 0, 98, 1), 109);
         C.due("too long for all", x.cross(31, 31, 0, 98, 0), -1);
@@ -162,6 +176,7 @@ public final class HaltsTest {
         C.due("ring(69, 30, 40, 0)", x.ring(69, 30, 40, 0), 0);
         C.due("ring(1, 999, 999, 0)", x.ring(1, 999, 999, 0), 0);
         C.due("ring(9999, 1, 1, 1)", x.ring(9999, 1, 1, 1), 1110);
+        C.due("by one UNIT a round", C.on("wagon a 1 1 1;").ring(10, 3, 4, 0), 3);
         int[][] wrong = {{0, 1, 1, 0}, {10000, 1, 1, 0}, {10, 0, 1, 0}, {10, 1, 0, 0}, {10, 1000, 1, 0}, {10, 1, 1000, 0},
             {10, 1, 1, 2}, {10, 1, 1, -1}};
         for (int[] w : wrong) {

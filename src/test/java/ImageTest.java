@@ -47,7 +47,72 @@ public final class ImageTest {
             c.due("restore(" + k + ")", x.restore(k), false);
         }
         same(c, "nothing is changed by that", told(x), was);
+        full(c);
         c.close("ImageTest");
+    }
+
+    /** As many of all as there may be, and HALVES; all of it other than what is there when it is restored. */
+    private static void full(Checks c) {
+        LongTrain x = c.on(fullLine(1, 3));
+        Checks.plan(x, "help 7 20;help 1 10;go 3;cut 6;cut 4;off;help 1 30;");
+        c.due("judge(1)", x.judge(1), -1);
+        Checks.plan(x, "go 5;sand 2;help 0 7;cut 2;cut 3;");
+        x.image(0);
+        String was = told(x) + tried(x);
+        c.due("another full LINE", Checks.line(x, fullLine(2, 5)), 56);
+        Checks.plan(x, "go 2;cut 7;cut 3;cut 0;");
+        x.judge(1);
+        Checks.plan(x, "sand 3;off;go 1;go 2;rest;");
+        x.image(1);
+        String then = told(x) + tried(x);
+        x.restore(0);
+        same(c, "all as kept in 0", told(x) + tried(x), was);
+        x.judge(1);
+        String later = told(x);
+        x.restore(1);
+        same(c, "all as kept in 1", told(x) + tried(x), then);
+        x.restore(0);
+        x.judge(1);
+        same(c, "it goes on as before", told(x), later);
+    }
+
+    private static String fullLine(int from, int by) {
+        StringBuilder s = new StringBuilder();
+        for (int i = 0; i < 20; i++) {
+            s.append("slope ").append((from + i * by) % 10).append(" 3;");
+        }
+        for (int k = 0; k < 6; k++) {
+            s.append("wagon k").append((char) ('a' + k)).append(' ').append(1 + (from + k) % 3).append(' ');
+            s.append(1 + (k * by + from) % 7).append(' ').append(900 + k + by).append(';');
+        }
+        for (int h = 0; h < 10; h++) {
+            char name = (char) ('a' + h);
+            s.append("halt h").append(name).append(' ').append(from + h * by).append(' ').append(h + by).append(';');
+            s.append("adds h").append(name).append(" k").append((char) ('a' + (h * by + from) % 6)).append(';');
+        }
+        for (int l = 0; l < 8; l++) {
+            s.append("loop ").append(from + l * by).append(' ').append(l + by).append(';');
+        }
+        s.append("engine 900 5;train");
+        for (int i = 0; i < 8; i++) {
+            s.append(" k").append((char) ('a' + (i * by + from) % 6));
+        }
+        return s.append(';').toString();
+    }
+
+    /** What the PLAN does, and what is asked of the TRAIN at first. */
+    private static String tried(LongTrain x) {
+        StringBuilder s = new StringBuilder().append(x.judge(0));
+        for (int w = 0; w < 6; w++) {
+            s.append(' ').append(x.judged(w));
+        }
+        for (int a = 0; a < x.count(0); a += 7) {
+            s.append(' ').append(x.strain(a, a, 0)).append(' ').append(x.squeeze(a, a, 0)).append(' ').append(x.needed(0, a));
+        }
+        for (int h = 0; h < x.count(1); h++) {
+            s.append(' ').append(x.room(h));
+        }
+        return s.append(' ').append(x.bet(7)).toString();
     }
 
     private static void same(Checks c, String what, String got, String want) {
@@ -64,8 +129,15 @@ public final class ImageTest {
             s.append(x.grade(u)).append(' ');
         }
         for (int i = 0; i < 3; i++) {
-            s.append(x.count(1) > 0 ? x.halt(0, i) : 0).append(' ').append(x.loop(0, i)).append(' ');
-            s.append(x.count(3) > 0 ? x.kind(1, i) : 0).append(' ');
+            for (int h = 0; h < x.count(1); h++) {
+                s.append(x.halt(h, i)).append(' ');
+            }
+            for (int l = 0; l < x.count(2); l++) {
+                s.append(x.loop(l, i)).append(' ');
+            }
+            for (int k = 0; k < x.count(3); k++) {
+                s.append(x.kind(k, i)).append(' ');
+            }
         }
         for (int i = 0; i < 8; i++) {
             s.append(x.train(i)).append(' ');

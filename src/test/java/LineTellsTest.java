@@ -40,6 +40,29 @@ public final class LineTellsTest {
         x.feed(1, 2, 3, 4, 5);
         c.due("count(10) with a tape", x.count(10), 20);
         c.due("the engine's WEIGHT and the WAGON's", x.train(4), 8 + 99);
+        afterOthers(c);
         c.close("LineTellsTest");
+    }
+
+    /** Nothing of a LINE is left in a later one, whichever it is. */
+    private static void afterOthers(Checks c) {
+        LongTrain x = c.on("");
+        int[] counts = {4, 0, 0, 0, 100, 1, 10, 10, 2, 0, 0};
+        for (int n = 0; n < 4; n++) {
+            Checks.line(x, "slope 3 9;halt h 1 1;halt k 2 2;loop 3 3;wagon a 1 2 3;adds h a;engine 7 8;rub 0;sand 1;wear 2;walk 3;train a a;");
+            for (int i = 0; i <= n; i++) {
+                c.due("rows of a short LINE", Checks.line(x, "slope 0 2;slope 1 2;"), 2);
+                for (int w = 0; w < counts.length; w++) {
+                    c.due("count(" + w + ") behind others", x.count(w), counts[w]);
+                }
+                c.due("WAGONS behind others", x.train(1), 0);
+                c.due("WEIGHT behind others", x.train(4), 10);
+                c.due("loop(0, 0) behind others", x.loop(0, 0), -1);
+                c.due("grade(3) behind others", x.grade(3), 1);
+            }
+            c.due("NAMES of others are forgotten", Checks.line(x, "wagon a 1 1 1;slope 0 9;halt h 0 1;adds h a;train a;"), 5);
+            c.due("what a HALT adds is told anew", Checks.line(x, "slope 0 9;halt h 0 1;wagon a 1 1 1;"), 3);
+            c.due("halt(0, 2)", x.halt(0, 2), -1);
+        }
     }
 }

@@ -62,6 +62,40 @@ public final class LivesTest {
         places(y, 3, 1, 0, 0);
     }
 
+    private static void parts() {
+        LongTrain x = C.on("slope 9 1;slope 0 9;halt a 3 9;wagon w 1 10 50;adds a w;train w;wear 99;");
+        for (int rule = 0; rule < 3; rule++) {
+            C.due("it parts at 1, rule " + rule, x.lives(rule), 0);
+        }
+        places(x, 0);
+        // w and v are alike strong: WEAR of more than 150 parts. w has 50 at 10; behind it v bears 20, w 25:
+        // 175 at 15; behind v w bears 5, v 25: 175 at 17
+        LongTrain y = C.on("slope 0 40;halt a 10 9;halt b 17 9;wagon w 1 5 30;wagon v 1 20 30;adds a v;adds b w;train w;wear 5;");
+        C.due("at the end", y.lives(0), 1);
+        C.due("behind the engine", y.lives(1), 2);
+        C.due("not ahead of one that is alike strong", y.lives(2), 1);
+        places(y, 2, 0, 0);
+        LongTrain z = C.on("slope 0 20;halt a 2 9;halt b 4 9;halt c 6 9;halt d 8 9;halt e 10 9;halt f 12 9;wagon w 1 10 45;"
+                + "adds a w;adds b w;adds c w;adds d w;adds e w;adds f w;wear 99;");
+        C.due("the fifth is too much", z.lives(0), 5);
+        places(z, 5, 0, 0, 0, 0);
+    }
+
+    /** b comes on at 2 and bears 100 from 5 on: with a STRENGTH drawn below that it parts there. */
+    private static void betsOfNew() {
+        LongTrain x = C.on("slope 0 3;slope 9 9;halt h 2 9;wagon a 1 1 999;wagon b 1 10 110;adds h b;train a;wear 99;");
+        int parted = 0;
+        for (int seed = 0; seed < 60; seed++) {
+            int drawn = (seed * 1103515245 + 12345) * 1103515245 + 12345;
+            boolean parts = 110 - (drawn >>> 8) % 28 < 100;
+            parted += parts ? 1 : 0;
+            C.due("bet(" + seed + ") of one that comes on", x.bet(seed), parts ? 5 : -1);
+        }
+        C.due("bets by 4", x.bets(60, 0, 4), 0);
+        C.due("bets by 5", x.bets(60, 0, 5), parted);
+        C.due("bets by 11", x.bets(60, 0, 11), parted);
+    }
+
     private static void bets() {
         LongTrain x = C.on("slope 0 9;wagon a 1 80 100;train a;wear 99;");
         int parted = 0;
@@ -124,7 +158,9 @@ public final class LivesTest {
         rules();
         countsHalts();
         wear();
+        parts();
         bets();
+        betsOfNew();
         C.close("LivesTest");
     }
 }

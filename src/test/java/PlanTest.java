@@ -136,6 +136,26 @@ public final class PlanTest {
         C.due("judged", x.judged(3), 0);
     }
 
+    /** What judge(0) does it does on a TRAIN like the one now, with its HELPERS and HALVES. */
+    private static void triedOn() {
+        LongTrain x = C.on("slope 9 20;engine 100 10;wagon a 1 10 999;train a a;");
+        Checks.plan(x, "help 1 250;help 0 7;cut 1;");
+        C.due("cut goes with its HELPER", x.judge(0), -1);
+        C.due("judged HALVES", x.judged(5), 1);
+        C.due("none stays", x.train(7), 0);
+        Checks.plan(x, "help 1 250;");
+        x.judge(1);
+        Checks.plan(x, "go 5;off;rest;go 1;");
+        judged(x, 3, 1, 5, 0, 5, 2, 0);
+        Checks.plan(x, "cut 1;off;");
+        judged(x, 1, 4, 0, 0, 0, 1, 1);
+        C.due("its HELPER is still there", x.train(6), 1);
+        C.due("its LOAD", x.train(5), 100 + 10 + 10 - 250);
+        C.due("an empty PLAN", Checks.plan(x, ""), 0);
+        C.due("is the PLAN now", x.count(9), 0);
+        judged(x, -1, 0, 0, 0, 0, 2, 0);
+    }
+
     private static void partedHelper() {
         // WAGON 1 parts on the grade with the HELPER at it; one that comes on in its place has none
         LongTrain x = C.on("slope 0 3;slope 9 9;halt h 6 9;wagon a 1 10 999;wagon b 1 10 60;adds h a;engine 999 1;train a b;wear 99;");
@@ -155,6 +175,7 @@ public final class PlanTest {
         texts();
         wrongs();
         helpers();
+        triedOn();
         partedHelper();
         C.close("PlanTest");
     }

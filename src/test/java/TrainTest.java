@@ -86,6 +86,25 @@ public final class TrainTest {
         C.due("no HALF", y.train(7), 0);
     }
 
+    private static void halvesOnGrades() {
+        LongTrain x = C.on("slope 1 3;slope 2 3;slope 4 9;halt h 7 1;halt k 8 1;wagon w 3 10 900;wagon s 2 20 900;train w s s;engine 999 1;");
+        x.go(8, 0);
+        Checks.plan(x, "cut 1;go 1;cut 0;");
+        C.due("judge(1)", x.judge(1), -1);
+        half(x, 0, 2, 4, 4, 0, 20 * 3 + 20 * 2);
+        half(x, 1, 1, 8, 3, -1, 10 * 5);
+        train(x, 9, 0, x.train(2), 1, 1, 5, 0, 2);
+        // HALVES of many LINES: those of one do not take the room of another's
+        for (int i = 0; i < 5; i++) {
+            Checks.line(x, "slope 0 9;wagon a 1 1 9;wagon b 2 1 9;train a b a b a b a b;");
+            Checks.plan(x, "cut 7;cut 5;cut 0;");
+            C.due("judge(1)", x.judge(1), -1);
+            half(x, 0, 1, -11, 2, -1, 1);
+            half(x, 1, 2, -8, 3, -1, 2);
+            half(x, 2, 5, -1, 7, -1, 5);
+        }
+    }
+
     private static void partsByWear() {
         LongTrain x = C.on("slope 0 20;wagon a 1 10 100;train a a;wear 1;");
         C.due("go(6, 0)", x.go(6, 0), 6);
@@ -123,6 +142,7 @@ public final class TrainTest {
         forces();
         stalls();
         partsByStrength();
+        halvesOnGrades();
         partsByWear();
         takesOn();
         C.close("TrainTest");
