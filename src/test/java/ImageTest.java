@@ -53,27 +53,35 @@ public final class ImageTest {
 
     /** As many of all as there may be, and HALVES; all of it other than what is there when it is restored. */
     private static void full(Checks c) {
-        LongTrain x = c.on(fullLine(1, 3));
-        Checks.plan(x, "help 7 20;help 1 10;go 3;cut 6;cut 4;off;help 1 30;");
-        c.due("judge(1)", x.judge(1), -1);
-        Checks.plan(x, "go 5;sand 2;help 0 7;cut 2;cut 3;");
+        LongTrain x = begun(c);
         x.image(0);
         String was = told(x) + tried(x);
         c.due("another full LINE", Checks.line(x, fullLine(2, 5)), 56);
         Checks.plan(x, "go 2;cut 7;cut 3;cut 0;");
         x.judge(1);
-        Checks.plan(x, "sand 3;off;go 1;go 2;rest;");
+        Checks.plan(x, "sand 3;help 0 9;off;go 1;go 2;rest;");
         x.image(1);
         String then = told(x) + tried(x);
         x.restore(0);
         same(c, "all as kept in 0", told(x) + tried(x), was);
-        x.judge(1);
-        String later = told(x);
         x.restore(1);
         same(c, "all as kept in 1", told(x) + tried(x), then);
+        Checks.line(x, fullLine(3, 2));
+        Checks.plan(x, "help 3 3;help 4 4;help 5 5;help 6 6;help 7 8;");
         x.restore(0);
-        x.judge(1);
-        same(c, "it goes on as before", told(x), later);
+        LongTrain y = begun(c);
+        c.due("judge(1) behind restore()", x.judge(1), -1);
+        c.due("judge(1) without", y.judge(1), -1);
+        same(c, "it goes on as one that never was restored", told(x), told(y));
+    }
+
+    /** On a full LINE, with HALVES, HELPERS and a PLAN to be done. */
+    private static LongTrain begun(Checks c) {
+        LongTrain x = c.on(fullLine(1, 3));
+        Checks.plan(x, "help 7 20;help 1 10;go 3;cut 6;cut 4;off;help 1 30;");
+        c.due("judge(1)", x.judge(1), -1);
+        Checks.plan(x, "go 5;sand 2;help 0 7;cut 2;cut 1;");
+        return x;
     }
 
     private static String fullLine(int from, int by) {
