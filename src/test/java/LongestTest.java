@@ -7,6 +7,8 @@ import java.util.Random;
 public final class LongestTest {
     private static final Checks C = new Checks();
     private static final int LINES = 12000;
+    /** Rare ones: a row of places parts in the very MOVE in which it comes to a HALT that adds. */
+    private static final long[] RARE = {570632, 587604};
     private static final int[] LONG = {1, 2, 3};
 
     private final Random dice;
@@ -141,6 +143,9 @@ public final class LongestTest {
 
     public static void main(String[] args) {
         for (long seed = 0; seed < LINES; seed++) {
+            new LongestTest(seed).check(seed);
+        }
+        for (long seed : RARE) {
             new LongestTest(seed).check(seed);
         }
         C.close("LongestTest");
