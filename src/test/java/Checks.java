@@ -3,16 +3,23 @@ import java.util.NoSuchElementException;
 /** What the tests have in common: texts onto the tape, answers against what is due. */
 final class Checks {
     private int wrong;
+    /** The words of the document that are being tried; none: "". */
+    private String sentence = "";
 
     /** A call that may throw. */
     interface Call {
         int ask();
     }
 
+    /** What follows tries these words of the document. */
+    void sentence(String words) {
+        sentence = "[" + words + "] ";
+    }
+
     void due(String what, long got, long want) {
         if (got != want) {
             wrong++;
-            System.out.println(what + " answered " + got + ", due is " + want);
+            System.out.println(sentence + what + " answered " + got + ", due is " + want);
         }
     }
 
@@ -28,7 +35,7 @@ final class Checks {
             return;
         }
         wrong++;
-        System.out.println(what + " answered " + got + ", due is NoSuchElementException");
+        System.out.println(sentence + what + " answered " + got + ", due is NoSuchElementException");
     }
 
     /** Ends the test: exit code 1 if an answer was not as due. */
@@ -97,5 +104,50 @@ final class Checks {
         due(name + " HEAD stays", x.train(0), 2);
         due(name + " PLAN stays", x.count(9), 1);
         due(name + " empties the tape", x.count(10), 0);
+    }
+
+    /** All that is told of LINE, TRAIN, HALVES and PLAN. */
+    static String told(LongTrain x) {
+        StringBuilder s = new StringBuilder();
+        for (int i = 0; i < 10; i++) {
+            s.append(x.count(i)).append(' ');
+        }
+        for (int u = 0; u < x.count(0); u++) {
+            s.append(x.grade(u)).append(' ');
+        }
+        for (int i = 0; i < 3; i++) {
+            for (int h = 0; h < x.count(1); h++) {
+                s.append(x.halt(h, i)).append(' ');
+            }
+            for (int l = 0; l < x.count(2); l++) {
+                s.append(x.loop(l, i)).append(' ');
+            }
+            for (int k = 0; k < x.count(3); k++) {
+                s.append(x.kind(k, i)).append(' ');
+            }
+        }
+        for (int i = 0; i < 8; i++) {
+            s.append(x.train(i)).append(' ');
+        }
+        for (int i = 0; i < x.train(1); i++) {
+            for (int w = 0; w < 5; w++) {
+                s.append(x.wagon(i, w)).append(' ');
+            }
+        }
+        for (int k = 0; k < x.train(7); k++) {
+            for (int w = 0; w < 5; w++) {
+                s.append(x.half(k, w)).append(' ');
+            }
+        }
+        return s.append(x.strain(0, 9, 0)).toString();
+    }
+
+    /** What calls told last. */
+    static String latest(LongTrain x) {
+        StringBuilder s = new StringBuilder();
+        for (int i = 0; i < 6; i++) {
+            s.append(x.placed(i)).append(' ').append(x.load(i)).append(' ').append(x.judged(i)).append(' ');
+        }
+        return s.toString();
     }
 }

@@ -10,43 +10,43 @@ public final class ImageTest {
         x.judge(1);
         Checks.plan(x, "go 1;off;");
         c.due("image(0)", x.image(0), true);
-        String was = told(x);
+        String was = Checks.told(x);
         x.go(8, 0);
         c.due("image(1)", x.image(1), true);
-        String then = told(x);
+        String then = Checks.told(x);
         c.due("they differ", was.equals(then), false);
         x.longest();
         Checks.loads(x, 0, 0);
         x.judge(0);
-        String latest = latest(x);
+        String latest = Checks.latest(x);
         Checks.line(x, "bad");
         x.feed(0, 0, 0, 0, 0);
         c.due("restore(0)", x.restore(0), true);
-        same(c, "as kept in 0", told(x), was);
-        same(c, "what other calls told stays", latest(x), latest);
+        same(c, "as kept in 0", Checks.told(x), was);
+        same(c, "what other calls told stays", Checks.latest(x), latest);
         c.due("fault() stays", x.fault(), 1);
         c.due("the tape stays", x.count(10), 20);
         x.end(0);
         c.due("restore(1)", x.restore(1), true);
-        same(c, "as kept in 1", told(x), then);
+        same(c, "as kept in 1", Checks.told(x), then);
         Checks.line(x, "");
         x.go(3, 0);
         c.due("restore(1) again", x.restore(1), true);
-        same(c, "as kept in 1, again", told(x), then);
+        same(c, "as kept in 1, again", Checks.told(x), then);
         x.go(2, 1);
         Checks.plan(x, "rest;");
         c.due("restore(1) after MOVES", x.restore(1), true);
-        same(c, "the image is not changed by what follows", told(x), then);
+        same(c, "the image is not changed by what follows", Checks.told(x), then);
         x.restore(0);
         c.due("image(1) once more", x.image(1), true);
         Checks.line(x, "");
         x.restore(1);
-        same(c, "the latest image counts", told(x), was);
+        same(c, "the latest image counts", Checks.told(x), was);
         for (int k : new int[] {-1, 2, Integer.MIN_VALUE, Integer.MAX_VALUE}) {
             c.due("image(" + k + ")", x.image(k), false);
             c.due("restore(" + k + ")", x.restore(k), false);
         }
-        same(c, "nothing is changed by that", told(x), was);
+        same(c, "nothing is changed by that", Checks.told(x), was);
         full(c);
         c.close("ImageTest");
     }
@@ -55,24 +55,24 @@ public final class ImageTest {
     private static void full(Checks c) {
         LongTrain x = begun(c);
         x.image(0);
-        String was = told(x) + tried(x);
+        String was = Checks.told(x) + tried(x);
         c.due("another full LINE", Checks.line(x, fullLine(2, 5)), 56);
         Checks.plan(x, "go 2;cut 7;cut 3;cut 0;");
         x.judge(1);
         Checks.plan(x, "sand 3;help 0 9;off;go 1;go 2;rest;");
         x.image(1);
-        String then = told(x) + tried(x);
+        String then = Checks.told(x) + tried(x);
         x.restore(0);
-        same(c, "all as kept in 0", told(x) + tried(x), was);
+        same(c, "all as kept in 0", Checks.told(x) + tried(x), was);
         x.restore(1);
-        same(c, "all as kept in 1", told(x) + tried(x), then);
+        same(c, "all as kept in 1", Checks.told(x) + tried(x), then);
         Checks.line(x, fullLine(3, 2));
         Checks.plan(x, "help 3 3;help 4 4;help 5 5;help 6 6;help 7 8;");
         x.restore(0);
         LongTrain y = begun(c);
         c.due("judge(1) behind restore()", x.judge(1), -1);
         c.due("judge(1) without", y.judge(1), -1);
-        same(c, "it goes on as one that never was restored", told(x), told(y));
+        same(c, "it goes on as one that never was restored", Checks.told(x), Checks.told(y));
     }
 
     /** On a full LINE, with HALVES, HELPERS and a PLAN to be done. */
@@ -125,49 +125,5 @@ public final class ImageTest {
 
     private static void same(Checks c, String what, String got, String want) {
         c.due(what + " (" + got + " / " + want + ")", got.equals(want), true);
-    }
-
-    /** All that is told of LINE, TRAIN, HALVES and PLAN. */
-    private static String told(LongTrain x) {
-        StringBuilder s = new StringBuilder();
-        for (int i = 0; i < 10; i++) {
-            s.append(x.count(i)).append(' ');
-        }
-        for (int u = 0; u < x.count(0); u++) {
-            s.append(x.grade(u)).append(' ');
-        }
-        for (int i = 0; i < 3; i++) {
-            for (int h = 0; h < x.count(1); h++) {
-                s.append(x.halt(h, i)).append(' ');
-            }
-            for (int l = 0; l < x.count(2); l++) {
-                s.append(x.loop(l, i)).append(' ');
-            }
-            for (int k = 0; k < x.count(3); k++) {
-                s.append(x.kind(k, i)).append(' ');
-            }
-        }
-        for (int i = 0; i < 8; i++) {
-            s.append(x.train(i)).append(' ');
-        }
-        for (int i = 0; i < x.train(1); i++) {
-            for (int w = 0; w < 5; w++) {
-                s.append(x.wagon(i, w)).append(' ');
-            }
-        }
-        for (int k = 0; k < x.train(7); k++) {
-            for (int w = 0; w < 5; w++) {
-                s.append(x.half(k, w)).append(' ');
-            }
-        }
-        return s.append(x.strain(0, 9, 0)).toString();
-    }
-
-    private static String latest(LongTrain x) {
-        StringBuilder s = new StringBuilder();
-        for (int i = 0; i < 6; i++) {
-            s.append(x.placed(i)).append(' ').append(x.load(i)).append(' ').append(x.judged(i)).append(' ');
-        }
-        return s.toString();
     }
 }
