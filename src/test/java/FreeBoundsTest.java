@@ -246,6 +246,10 @@ public final class FreeBoundsTest {
         due("from 5, with what came on there", z.helped(5, 19, 0, 1), 7);
         due("at the last UNIT", z.helped(19, 19, 0, 1), 7);
         due("none", C.on("slope 0 20;").helped(0, 19, 0, 1), 0);
+        LongTrain on = C.on("slope 0 20;halt h 10 9;wagon a 1 10 25;adds h a;train a a;engine 99 1;");
+        due("to where a third comes on", on.helped(0, 10, 0, 1), 3);
+        due("it bears 30 less 1 of 25 from there on", on.helped(0, 11, 0, 1), 0);
+        due("and 30 less 5", on.helped(0, 11, 0, 5), 3);
         C.sentence("HELPED by P (1 to 999)");
         for (int p : new int[] {0, 1000, -1, LOW, HIGH}) {
             due("by " + p, z.helped(0, 19, 0, p), -1);
@@ -289,7 +293,11 @@ public final class FreeBoundsTest {
         String weak = "slope 0 9;halt h 3 9;halt m 8 9;wagon w 1 10 39;wear 99;train w;adds m w;";
         due("w is weaker by 1", C.on(weak + "wagon n 1 30 40;adds h n;").lives(2), 2);
         due("n at the end", C.on(weak + "wagon n 1 30 40;adds h n;").lives(0), 1);
-        due("w is alike strong, so at the end", C.on(weak + "wagon n 1 30 39;adds h n;").lives(2), 1);
+        // WEAR of more than 150 parts: w has 50 at 10; behind it n bears 20, w 25: 175 at 15; behind n w bears 5,
+        // n 25: 175 at 17
+        String alike = "slope 0 40;halt a 10 9;halt b 17 9;wagon w 1 5 30;adds b w;train w;wear 5;";
+        due("w is alike strong, so at the end", C.on(alike + "wagon n 1 20 30;adds a n;").lives(2), 1);
+        due("w is weaker by 1", C.on(alike + "wagon n 1 20 31;adds a n;").lives(2), 2);
         due("w is stronger, so at the end", C.on(weak + "wagon n 1 29 30;adds h n;").lives(2), 2);
         due("behind the engine n would bear 39 of 30", C.on(weak + "wagon n 1 29 30;adds h n;").lives(1), 1);
         due("behind the engine", C.on(weak + "wagon n 1 29 39;adds h n;").lives(1), 2);
@@ -405,6 +413,12 @@ public final class FreeBoundsTest {
         due("and back", z.back(2, 2, 3), 0);
         due("no WAGONS", C.on("slope 0 9;").cook(0, 0, 0), -1);
         due("an empty LINE", C.on("wagon a 1 1 1;train a;").cook(0, 0, 0), -1);
+        C.sentence("COOK, FREE: taking on WAGONS");
+        LongTrain comes = C.on("slope 0 20;halt h 4 9;wagon a 2 10 39;adds h a;train a a;walk 1;");
+        due("past it ahead of what comes on", comes.cook(0, 1, 2), 2);
+        due("what comes on closes it", comes.cook(0, 1, 3), -1);
+        due("past it back ahead of that", comes.back(0, 1, 3), 2);
+        due("closed back", comes.back(0, 1, 4), -1);
         C.sentence("ahead of the MOVE; else he stays at it for that minute");
         // half of 40 is borne but for the MOVE in which WAGON 1 is at UNIT 6 or 7, with HEAD at 9 and 10
         LongTrain v = C.on("slope 0 6;slope 2 2;slope 0 20;wagon a 2 10 40;train a a;walk 2;");
@@ -478,6 +492,8 @@ public final class FreeBoundsTest {
         due("the way of the shorter and its LONG", x.cross(4, 5, 0, 20, 1), 14);
         due("just the other one's way", x.cross(4, 5, 0, 24, 1), 14);
         due("1 more of it", x.cross(4, 5, 0, 25, 1), 15);
+        due("the way from x", x.cross(4, 5, 7, 12, 1), 7);
+        due("the way from x alone", x.cross(5, 4, 3, 10, 1), 7);
         due("like ones", C.on("slope 0 99;loop 30 9;loop 27 9;").cross(3, 9, 0, 60, 0), 0);
         due("minutes", C.on("slope 0 99;loop 30 9;loop 27 9;").cross(3, 9, 0, 60, 1), 33);
         due("like ones, told the other way", C.on("slope 0 99;loop 27 9;loop 30 9;").cross(3, 9, 0, 60, 0), 0);
