@@ -17,7 +17,7 @@ public final class FaceTest {
         "int loads(0)", "int load(1)", "int cross(5)", "int ring(4)", "int plan(0)", "int judge(1)", "int judged(1)",
         "int bet(1)", "int bets(3)", "boolean image(1)", "boolean restore(1)", "int count(1)"};
     private static final String[] FORBIDDEN = {"->", "::", "catch", "finally", "Exact(", "synchronized", "assert ",
-        ".getMessage", "System.out", "Random", "currentTimeMillis", "nanoTime", "Thread", "protected ", "new Exception"};
+        ".getMessage", "while (true)", "for (;;)", "try {", "static {", "System.out", "Random", "currentTimeMillis", "nanoTime", "Thread", "protected ", "new Exception"};
 
     public static void main(String[] args) throws Exception {
         Checks c = new Checks();
@@ -48,8 +48,11 @@ public final class FaceTest {
         c.due("one constructor, without arguments", made.length == 1 && made[0].getParameterCount() == 0, true);
         c.due("the class is final", Modifier.isFinal(LongTrain.class.getModifiers()), true);
         c.due("at most twelve classes", classes.size() < 12, true);
+        fields(c, LongTrain.class);
         for (Class<?> inner : classes) {
+            fields(c, inner);
             c.due(inner.getName() + " is static", Modifier.isStatic(inner.getModifiers()), true);
+            c.due(inner.getName() + " is public", Modifier.isPublic(inner.getModifiers()), false);
             for (Method m : inner.getDeclaredMethods()) {
                 c.due(m + " has a name of the face", names.contains(m.getName()), false);
                 c.due(m + " has more than seven parameters", m.getParameterCount() > 7, false);
@@ -57,6 +60,23 @@ public final class FaceTest {
         }
         source(c, Files.readString(Path.of("src/main/java/LongTrain.java")));
         c.close("FaceTest");
+    }
+
+    private static final List<Class<?>> CONSTANTS = List.of(int.class, long.class, boolean.class, char.class,
+            String.class, int[].class, long[].class, char[].class, byte[].class);
+
+    /** Static fields are constants; some twenty others are enough for a class. */
+    private static void fields(Checks c, Class<?> of) {
+        int own = 0;
+        for (Field f : of.getDeclaredFields()) {
+            if (Modifier.isStatic(f.getModifiers())) {
+                c.due(f + " is final", Modifier.isFinal(f.getModifiers()), true);
+                c.due(f + " is a constant", CONSTANTS.contains(f.getType()), true);
+            } else {
+                own++;
+            }
+        }
+        c.due(of.getName() + " has more than twenty fields", own > 20, false);
     }
 
     private static void source(Checks c, String text) {
